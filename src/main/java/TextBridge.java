@@ -28,7 +28,9 @@ public final class TextBridge {
     private static final int NULL = 22;
 
     private final Row tape;
-    private final Row written;
+    private Row written;
+    // Becomes what is written when it is whole: at a fault, what was written stays.
+    private Row draft;
     private int depth;
     private int room;
     private int faultPlace;
@@ -36,6 +38,7 @@ public final class TextBridge {
     public TextBridge() {
         tape = new Row(TAPE_LIMIT);
         written = new Row(ROOM_LIMIT);
+        draft = new Row(ROOM_LIMIT);
         depth = FIRST_DEPTH;
         room = FIRST_ROOM;
         faultPlace = NONE;
@@ -71,14 +74,14 @@ public final class TextBridge {
     }
 
     public int toCbor() {
-        written.cutTo(0);
-        JsonReader reader = new JsonReader(tape, written, depth);
+        draft.cutTo(0);
+        JsonReader reader = new JsonReader(tape, draft, depth);
         return answerOf(reader, reader.readValue(0) && reader.readEnd());
     }
 
     public int toJson() {
-        written.cutTo(0);
-        CborReader reader = new CborReader(tape, written, depth);
+        draft.cutTo(0);
+        CborReader reader = new CborReader(tape, draft, depth);
         return answerOf(reader, reader.readItem(0) && reader.readEnd());
     }
 
@@ -104,15 +107,21 @@ public final class TextBridge {
 
     private int answerOf(Reader reader, boolean isWhole) {
         // The room is looked at last: a fault anywhere in the tape goes ahead of it.
-        if (isWhole && written.size() > room) {
+        if (isWhole && draft.size() > room) {
             reader.refuse(TOO_LONG, tape.size());
         }
         faultPlace = reader.faultPlace();
         if (reader.faultKind() != NO_FAULT) {
-            written.cutTo(0);
             return -reader.faultKind();
         }
+        exchangeRows();
         return written.size();
+    }
+
+    private void exchangeRows() {
+        Row earlier = written;
+        written = draft;
+        draft = earlier;
     }
 
     /** Bytes one behind the other. Those beyond the capacity are counted, but not kept. */

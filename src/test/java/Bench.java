@@ -5,6 +5,7 @@ import java.util.Arrays;
 final class Bench {
     /** An object is promised for 512 calls alone; long outputs are read from several objects. */
     private static final int READS_OF_ONE_OBJECT = 200;
+    private static final int BYTES_LOOKED_AT = 20;
 
     interface Setup {
         TextBridge make();
@@ -113,10 +114,10 @@ final class Bench {
     }
 
     void cborFault(TextBridge x, String name, int kind, int place) {
+        String earlier = firstWritten(x);
         due("toCbor of " + name, x.toCbor(), -kind);
         due("toCbor of " + name + ": errorAt", x.errorAt(), place);
-        due("toCbor of " + name + ": outSize", x.outSize(), 0);
-        due("toCbor of " + name + ": out(0)", x.out(0), TextBridge.NONE);
+        due("toCbor of " + name + ": what was written", firstWritten(x), earlier);
     }
 
     /** CBOR and the JSON that is due, one sign a byte. */
@@ -140,10 +141,20 @@ final class Bench {
     }
 
     void jsonFault(TextBridge x, String name, int kind, int place) {
+        String earlier = firstWritten(x);
         due("toJson of " + name, x.toJson(), -kind);
         due("toJson of " + name + ": errorAt", x.errorAt(), place);
-        due("toJson of " + name + ": outSize", x.outSize(), 0);
-        due("toJson of " + name + ": out(0)", x.out(0), TextBridge.NONE);
+        due("toJson of " + name + ": what was written", firstWritten(x), earlier);
+    }
+
+    /** How many bytes are written, and the first of them. */
+    static String firstWritten(TextBridge x) {
+        int size = x.outSize();
+        StringBuilder result = new StringBuilder().append(size).append(':');
+        for (int i = 0; i < BYTES_LOOKED_AT && i <= size; i++) {
+            result.append(' ').append(x.out(i));
+        }
+        return result.toString();
     }
 
     private static TextBridge converted(byte[] tape, boolean fromJson) {

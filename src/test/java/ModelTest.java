@@ -18,6 +18,8 @@ import java.util.regex.Pattern;
  */
 public final class ModelTest {
     private static final Bench bench = new Bench();
+    private static final String EARLIER_JSON = "[\"what was\"]";
+    private static final String EARLIER_CBOR = "81687768617420776173";
     private static final BigInteger LEAST = BigInteger.ONE.shiftLeft(64).negate();
     private static final BigInteger MOST = BigInteger.ONE.shiftLeft(64).subtract(BigInteger.ONE);
 
@@ -69,7 +71,8 @@ public final class ModelTest {
         }
         Result want = readJson(json, depth);
         byte[] bytes = want.kind == 0 ? cborOf(want.tree) : new byte[0];
-        TextBridge x = Bench.loaded(json);
+        TextBridge x = withEarlierWriting();
+        Bench.load(x, json);
         x.bounds(depth, room);
         compare("toCbor of " + Bench.shown(json) + " " + depth + " " + room, x, x.toCbor(), want, bytes, json.length, room);
     }
@@ -80,14 +83,21 @@ public final class ModelTest {
         }
         Result want = readCbor(cbor, depth);
         byte[] bytes = want.kind == 0 ? Bench.utf8(jsonOf(want.tree)) : new byte[0];
-        TextBridge x = Bench.loaded(cbor);
+        TextBridge x = withEarlierWriting();
+        Bench.load(x, cbor);
         x.bounds(depth, room);
         compare("toJson of " + Bench.hex(cbor) + " " + depth + " " + room, x, x.toJson(), want, bytes, cbor.length, room);
     }
 
+    private static TextBridge withEarlierWriting() {
+        TextBridge x = Bench.loaded(Bench.bytes(EARLIER_JSON));
+        x.toCbor();
+        return x;
+    }
+
     private static void compare(String name, TextBridge x, int got, Result want, byte[] bytes, int length, int room) {
         Result due = want.kind == 0 && bytes.length > room ? Result.fault(5, length) : want;
-        byte[] written = due.kind == 0 ? bytes : new byte[0];
+        byte[] written = due.kind == 0 ? bytes : Bench.unhex(EARLIER_CBOR);
         bench.due(name, got, due.kind == 0 ? written.length : -due.kind);
         bench.due(name + ": errorAt", x.errorAt(), due.place);
         bench.due(name + ": outSize", x.outSize(), written.length);

@@ -185,14 +185,53 @@ public final class StateTest {
     }
 
     private static void writtenAfterFault() {
-        TextBridge x = Bench.loaded(Bench.bytes("[1,2,3]"));
+        TextBridge x = Bench.loaded(Bench.bytes("[1,2,3"));
+        bench.due("a fault ahead of any writing", x.toCbor(), -1);
+        bench.due("nothing is written yet", Bench.firstWritten(x), "0: -1");
+        Bench.load(x, Bench.bytes("[1,2,3]"));
+        bench.due("toCbor", x.toCbor(), 4);
+        String array = "4: 131 1 2 3 -1";
+        Bench.load(x, Bench.bytes("[9,8,7,6,5,"));
+        bench.cborFault(x, "an open array", 1, 11);
+        bench.due("toCbor leaves what was", Bench.firstWritten(x), array);
+        Bench.load(x, Bench.unhex("83090807ff"));
+        bench.jsonFault(x, "a byte behind", 1, 4);
+        bench.due("toJson leaves what was", Bench.firstWritten(x), array);
+        bench.due("the TAPE stays, too", x.end(6), NONE);
+        bench.due("the TAPE has 5", x.end(5), 5);
+        bench.due("take of what was", x.take(), 4);
+        bench.due("toJson of it", x.toJson(), 7);
+        String text = "7: 91 49 44 50 44 51 93 -1";
+        bench.due("in place of what was", Bench.firstWritten(x), text);
+        Bench.load(x, Bench.unhex("8204"));
+        bench.jsonFault(x, "an array that lacks an item", 1, 2);
+        bench.jsonFault(x, "the same again", 1, 2);
+        bench.cborFault(x, "CBOR", 1, 0);
+        bench.due("the latest writing stays", Bench.firstWritten(x), text);
+        everyKindLeavesWritten();
+    }
+
+    private static void everyKindLeavesWritten() {
+        String[] texts = {"[7,8,]", "[7,\"\u0080\"]", "[7,1.5]", "[[7]]", "[7,8,9]"};
+        for (int kind = 1; kind <= texts.length; kind++) {
+            TextBridge x = withThreeWritten(Bench.bytes(texts[kind - 1]));
+            bench.due("toCbor of " + texts[kind - 1], x.toCbor(), -kind);
+            bench.due("toCbor of " + texts[kind - 1] + " leaves", Bench.firstWritten(x), "3: 130 1 2 -1");
+        }
+        String[] items = {"8207", "820740", "820761ff", "818107", "820708", "82071800"};
+        for (int kind = 1; kind <= items.length; kind++) {
+            TextBridge x = withThreeWritten(Bench.unhex(items[kind - 1]));
+            bench.due("toJson of " + items[kind - 1], x.toJson(), -kind);
+            bench.due("toJson of " + items[kind - 1] + " leaves", Bench.firstWritten(x), "3: 130 1 2 -1");
+        }
+    }
+
+    private static TextBridge withThreeWritten(byte[] tape) {
+        TextBridge x = Bench.loaded(Bench.bytes("[1,2]"));
+        x.bounds(1, 3);
         x.toCbor();
-        Bench.load(x, Bench.bytes("[1,2,3,"));
-        bench.cborFault(x, "an open array behind a whole one", 1, 7);
-        Bench.load(x, Bench.unhex("8301"));
-        bench.jsonFault(x, "an open array", 1, 2);
-        bench.due("take of nothing", x.take(), 0);
-        bench.due("end(1)", x.end(1), NONE);
+        Bench.load(x, tape);
+        return x;
     }
 
     private static void take() {
