@@ -535,31 +535,70 @@ public final class TextBridge {
             }
         }
 
+        /** Goes along the number to its end first: what is none is malformed, however it began. */
         private boolean readNumber() {
             int start = place;
-            boolean negative = tape.at(place) == '-';
-            if (negative) {
+            if (tape.at(place) == '-') {
                 place++;
             }
+            int digits = place;
             if (tape.at(place) == '0') {
                 place++;
-                return readNumberEnd(start) && putNumber(UNSIGNED, 0);
+            } else if (!readDigits()) {
+                return false;
             }
-            if (!isDigit(tape.at(place))) {
-                return refuse(MALFORMED, place);
+            int end = place;
+            if (!readFraction() || !readExponent()) {
+                return false;
             }
-            long size = 0;
-            for (int count = 0; count <= LIMIT_DIGITS && isDigit(tape.at(place)); count++) {
-                int digit = tape.at(place) - '0';
-                if (isBeyond(size, count, digit, negative)) {
-                    return refuse(NO_WHOLE_NUMBER, start);
-                }
-                size = size * 10 + digit;
+            boolean isWhole = place == end;
+            return isWhole && putWhole(digits, end, digits > start) || refuse(NO_WHOLE_NUMBER, start);
+        }
+
+        private boolean readDigits() {
+            int start = place;
+            for (int i = start; i < tape.size() && isDigit(tape.at(i)); i++) {
+                place = i + 1;
+            }
+            return place > start || refuse(MALFORMED, place);
+        }
+
+        private boolean readFraction() {
+            if (tape.at(place) != '.') {
+                return true;
+            }
+            place++;
+            return readDigits();
+        }
+
+        private boolean readExponent() {
+            if (tape.at(place) != 'e' && tape.at(place) != 'E') {
+                return true;
+            }
+            place++;
+            if (tape.at(place) == '+' || tape.at(place) == '-') {
                 place++;
             }
-            // For -2^64 the size has wrapped to 0, and one less is 2^64 - 1 again.
-            return readNumberEnd(start)
-                && (negative ? putNumber(NEGATIVE, size - 1) : putNumber(UNSIGNED, size));
+            return readDigits();
+        }
+
+        /** Answers false, and writes nothing, if the number is beyond what CBOR can hold. */
+        private boolean putWhole(int start, int end, boolean hasMinus) {
+            long size = 0;
+            for (int i = start; i < end; i++) {
+                int digit = tape.at(i) - '0';
+                if (isBeyond(size, i - start, digit, hasMinus)) {
+                    return false;
+                }
+                size = size * 10 + digit;
+            }
+            // -0 is told by its digit: of -2^64 the size has wrapped to 0, too, and one less is 2^64 - 1 again.
+            if (hasMinus && tape.at(start) != '0') {
+                target.putHead(NEGATIVE, size - 1);
+            } else {
+                target.putHead(UNSIGNED, size);
+            }
+            return true;
         }
 
         /** Whether a digit more behind count digits, the first of them no 0, leads beyond what CBOR can hold. */
@@ -571,25 +610,6 @@ public final class TextBridge {
                 return true;
             }
             return size == LIMIT_FIRST && digit > (negative ? LIMIT_LAST : LIMIT_LAST - 1);
-        }
-
-        /** Refuses . and e as soon as their first digit has come; what stands behind isn't looked at. */
-        private boolean readNumberEnd(int start) {
-            int sign = tape.at(place);
-            if (sign != '.' && sign != 'e' && sign != 'E') {
-                return true;
-            }
-            place++;
-            int next = tape.at(place);
-            if (sign != '.' && (next == '+' || next == '-')) {
-                place++;
-            }
-            return isDigit(tape.at(place)) ? refuse(NO_WHOLE_NUMBER, start) : refuse(MALFORMED, place);
-        }
-
-        private boolean putNumber(int type, long number) {
-            target.putHead(type, number);
-            return true;
         }
 
         private static boolean isBlank(int sign) {

@@ -62,7 +62,20 @@ public final class ModelTest {
                 compareCbor(changed(random, cbor, false), depth, room);
             }
         }
+        for (String start : new String[] {"", "[-2.5", "18446744073709551616", "-18446744073709551616"}) {
+            compareNumbers(start, 5);
+        }
         bench.finish("ModelTest");
+    }
+
+    /** The text, and all that has up to so many signs more of those that numbers have, and some others. */
+    private static void compareNumbers(String text, int more) {
+        compareJson(Bench.bytes(text), 20, 4000);
+        for (char sign : "-+.e019] ".toCharArray()) {
+            if (more > 0) {
+                compareNumbers(text + sign, more - 1);
+            }
+        }
     }
 
     private static void compareJson(byte[] json, int depth, int room) {
@@ -209,7 +222,8 @@ public final class ModelTest {
         } else {
             out.writeBytes(Bench.utf8(jsonOf(tree)));
             if (tree instanceof BigInteger && random.nextInt(40) == 0) {
-                out.writeBytes(Bench.bytes(random.nextBoolean() ? ".25" : "e+1"));
+                String[] parts = {".25", "e+1", ".5E-07", "0000000000", ".", ".5e", "E-", "00000000000000000000.1e+"};
+                out.writeBytes(Bench.bytes(parts[random.nextInt(parts.length)]));
             }
         }
         blanks(random, out);
@@ -306,8 +320,8 @@ public final class ModelTest {
     // ---- reading JSON: a table of what may come next, and a stack
 
     private static final Pattern WHOLE = Pattern.compile("-?(0|[1-9][0-9]*)");
-    private static final Pattern PART = Pattern.compile("\\.[0-9]|[eE][+-]?[0-9]");
-    private static final Pattern PART_BEGUN = Pattern.compile("\\.|[eE][+-]?");
+    // A part that has begun, but lacks its digits.
+    private static final Pattern LACKING = Pattern.compile("(\\.[0-9]++)?+[eE][+-]?+(?![0-9])|\\.(?![0-9])");
 
     private static Result readJson(byte[] bytes, int depth) {
         String text = new String(bytes, StandardCharsets.ISO_8859_1);
@@ -355,12 +369,13 @@ public final class ModelTest {
                 }
                 BigInteger number = new BigInteger(whole.group());
                 String rest = text.substring(whole.end());
-                Matcher begun = PART_BEGUN.matcher(rest);
-                if (number.compareTo(LEAST) < 0 || number.compareTo(MOST) > 0 || PART.matcher(rest).lookingAt()) {
-                    return Result.fault(3, p);
+                Matcher lacking = LACKING.matcher(rest);
+                if (lacking.lookingAt()) {
+                    return Result.fault(1, whole.end() + lacking.end());
                 }
-                if (begun.lookingAt()) {
-                    return Result.fault(1, whole.end() + begun.end());
+                boolean hasPart = !rest.isEmpty() && ".eE".indexOf(rest.charAt(0)) >= 0;
+                if (hasPart || number.compareTo(LEAST) < 0 || number.compareTo(MOST) > 0) {
+                    return Result.fault(3, p);
                 }
                 got = number;
                 p = whole.end();

@@ -7,6 +7,8 @@ public final class ToCborTest {
         numbers();
         numbersBeyond();
         numbersWithParts();
+        numbersThatAreNone();
+        numbersAtOnePlace();
         strings();
         escapes();
         malformedStrings();
@@ -114,13 +116,42 @@ public final class ToCborTest {
         bench.cborFault("1E-]", 1, 3);
         bench.cborFault("0.", 1, 2);
         bench.cborFault("-0e", 1, 3);
-        // What stands behind in the same number isn't looked at.
+        // A number that is one, and what it can't go on with: the first along the text is the number.
         bench.cborFault("1.5.5", 3, 0);
-        bench.cborFault("1.5e", 3, 0);
-        bench.cborFault("1.5e+x", 3, 0);
+        bench.cborFault("1.5x", 3, 0);
         bench.cborFault("1e5.5", 3, 0);
-        bench.cborFault("18446744073709551616.", 3, 0);
-        bench.cborFault("18446744073709551616e", 3, 0);
+        bench.cborFault("1e5e5", 3, 0);
+        bench.cborFault("1.5e5-", 3, 0);
+        bench.cborFault("[1.5\u0000", 3, 1);
+        bench.cborFault("1." + "0".repeat(3998), 3, 0);
+    }
+
+    private static void numbersThatAreNone() {
+        bench.cborFault("1.1e" + "\u0000".repeat(18), 1, 4);
+        bench.cborFault("1.5e", 1, 4);
+        bench.cborFault("1.5E", 1, 4);
+        bench.cborFault("1.5e+", 1, 5);
+        bench.cborFault("1.5e+x", 1, 5);
+        bench.cborFault("-0.25E-,1", 1, 7);
+        bench.cborFault("1.5e.5", 1, 4);
+        bench.cborFault("1.5e 5", 1, 4);
+        bench.cborFault("[1.50e]", 1, 6);
+        bench.cborFault("{\"a\":0.0ee", 1, 9);
+        bench.cborFault("18446744073709551616.", 1, 21);
+        bench.cborFault("18446744073709551616.]", 1, 21);
+        bench.cborFault("18446744073709551616e", 1, 21);
+        bench.cborFault("-18446744073709551617E+\"", 1, 23);
+        bench.cborFault("18446744073709551616.5e-", 1, 24);
+        bench.cborFault("9".repeat(3999) + ".", 1, 4000);
+        bench.cborFault("18446744073709551616.5", 3, 0);
+        bench.cborFault("18446744073709551616e-1", 3, 0);
+        bench.cborFault("1." + "0".repeat(3997) + "e", 1, 4000);
+        // The first along the text is the number that is none, not what stands behind.
+        bench.cborFault("[1.5e,2.5]", 1, 5);
+        bench.cborFault("[1.5,2.5e]", 3, 1);
+    }
+
+    private static void numbersAtOnePlace() {
         // Of two at one place the least one.
         bench.cborFault("[1 2.5]", 1, 3);
         bench.cborFault("{1.5:2}", 1, 1);
