@@ -46,9 +46,22 @@ final class Bench {
         return result;
     }
 
+    /** Of a sign of several bytes, by RFC 3629's table of well-formed sequences. */
+    static boolean isSecondOf(int first, int second) {
+        int least = first == 0xE0 ? 0xA0 : first == 0xF0 ? 0x90 : 0x80;
+        int most = first == 0xED ? 0x9F : first == 0xF4 ? 0x8F : 0xBF;
+        return first >= 0xC2 && first <= 0xF4 && second >= least && second <= most;
+    }
+
     static TextBridge loaded(byte[] tape) {
         TextBridge x = new TextBridge();
         load(x, tape);
+        return x;
+    }
+
+    static TextBridge bounded(byte[] tape, int depth, int room) {
+        TextBridge x = loaded(tape);
+        x.bounds(depth, room);
         return x;
     }
 
@@ -75,6 +88,14 @@ final class Bench {
             result[i] = (byte) x.out(i);
         }
         return result;
+    }
+
+    int wrong() {
+        return wrong;
+    }
+
+    int checked() {
+        return checked;
     }
 
     void due(String what, long got, long want) {
@@ -120,6 +141,11 @@ final class Bench {
         due("toCbor of " + name + ": what was written", firstWritten(x), earlier);
     }
 
+    void cborFault(int depth, int room, String json, int kind, int place) {
+        String name = shown(bytes(json)) + " at DEPTH " + depth + ", ROOM " + room;
+        cborFault(bounded(bytes(json), depth, room), name, kind, place);
+    }
+
     /** CBOR and the JSON that is due, one sign a byte. */
     void json(String cborHex, String want) {
         json(unhex(cborHex), want);
@@ -145,6 +171,11 @@ final class Bench {
         due("toJson of " + name, x.toJson(), -kind);
         due("toJson of " + name + ": errorAt", x.errorAt(), place);
         due("toJson of " + name + ": what was written", firstWritten(x), earlier);
+    }
+
+    void jsonFault(int depth, int room, String cborHex, int kind, int place) {
+        String name = cborHex + " at DEPTH " + depth + ", ROOM " + room;
+        jsonFault(bounded(unhex(cborHex), depth, room), name, kind, place);
     }
 
     /** How many bytes are written, and the first of them. */
