@@ -110,7 +110,9 @@ final class Bench {
         checked++;
         if (!got.equals(want)) {
             wrong++;
-            System.out.println(what + " wrote " + got + ", due is " + want);
+            int same = firstDifference(got, want);
+            System.out.println(what + " wrote, from sign " + same + " on, " + clipped(got.substring(same)) + ", due is "
+                + clipped(want.substring(same)));
         }
     }
 
@@ -204,7 +206,19 @@ final class Bench {
             int value = b & 255;
             result.append(value >= 32 && value < 127 ? String.valueOf((char) value) : String.format("<%02x>", value));
         }
-        return result.length() > 120 ? result.substring(0, 117) + ".." : result.toString();
+        return clipped(result.toString());
+    }
+
+    private static int firstDifference(String a, String b) {
+        int same = 0;
+        while (same < a.length() && same < b.length() && a.charAt(same) == b.charAt(same)) {
+            same++;
+        }
+        return same;
+    }
+
+    private static String clipped(String text) {
+        return text.length() > 120 ? text.substring(0, 117) + ".." : text;
     }
 
     void finish(String name) {

@@ -467,8 +467,21 @@ public final class PromiseSentencesTest {
             bench.due("an array of " + count, Bench.loaded(Bench.bytes("[" + array + "]")).toCbor(), head + count);
             bench.due("a map of " + count, Bench.loaded(Bench.bytes("{" + map + "}")).toCbor(), head + 2 * count);
         }
+        lateHeads();
         bench.due("the shortest", Bench.loaded(Bench.bytes("0")).toCbor(), 1);
         bench.due("the longest", Bench.bounded(Bench.bytes('"' + "a".repeat(3998) + '"'), 0, 6000).toCbor(), 4001);
+    }
+
+    /** Heads that are longer than a byte, at the end of a TAPE that is nearly full. */
+    private static void lateHeads() {
+        String ahead = "82 790dac" + "61".repeat(3500);
+        String text = "[\"" + "a".repeat(3500) + "\",";
+        bench.cbor(text + "[" + "0,".repeat(23) + "0]]", ahead + "9818" + "00".repeat(24));
+        bench.cbor(text + "[[[" + "0,".repeat(236) + "\"abc\"]]]]", ahead + "818198ed" + "00".repeat(236) + "63616263");
+        bench.cbor(text + "{" + "\"\":0,".repeat(90) + "\"\":0}]", ahead + "b85b" + "6000".repeat(91));
+        bench.cbor(text + "\"" + "b".repeat(493) + "\"]", ahead + "7901ed" + "62".repeat(493));
+        bench.cbor(text + "{\"" + "b".repeat(400) + "\":[\"" + "c".repeat(81) + "\"]}]",
+            ahead + "a1790190" + "62".repeat(400) + "817851" + "63".repeat(81));
     }
 
     private static void howManyOfJson() {
