@@ -28,9 +28,9 @@ public final class TextBridge {
     private static final int NULL = 22;
 
     private final Row tape;
-    private Row written;
-    // Becomes what is written when it is whole: at a fault, what was written stays.
-    private Row draft;
+    private final Row written;
+    // Keeps no bytes: what is written changes only when it is known that there is no fault.
+    private final Row measure;
     private int depth;
     private int room;
     private int faultPlace;
@@ -38,7 +38,7 @@ public final class TextBridge {
     public TextBridge() {
         tape = new Row(TAPE_LIMIT);
         written = new Row(ROOM_LIMIT);
-        draft = new Row(ROOM_LIMIT);
+        measure = new Row(0);
         depth = FIRST_DEPTH;
         room = FIRST_ROOM;
         faultPlace = NONE;
@@ -74,15 +74,27 @@ public final class TextBridge {
     }
 
     public int toCbor() {
-        draft.cutTo(0);
-        JsonReader reader = new JsonReader(tape, draft, depth);
-        return answerOf(reader, reader.readValue(0) && reader.readEnd());
+        measure.cutTo(0);
+        JsonReader trial = new JsonReader(tape, measure, depth);
+        boolean isWhole = trial.readValue(0) && trial.readEnd();
+        if (isRefused(trial, isWhole)) {
+            return -trial.faultKind();
+        }
+        written.cutTo(0);
+        new JsonReader(tape, written, depth).readValue(0);
+        return written.size();
     }
 
     public int toJson() {
-        draft.cutTo(0);
-        CborReader reader = new CborReader(tape, draft, depth);
-        return answerOf(reader, reader.readItem(0) && reader.readEnd());
+        measure.cutTo(0);
+        CborReader trial = new CborReader(tape, measure, depth);
+        boolean isWhole = trial.readItem(0) && trial.readEnd();
+        if (isRefused(trial, isWhole)) {
+            return -trial.faultKind();
+        }
+        written.cutTo(0);
+        new CborReader(tape, written, depth).readItem(0);
+        return written.size();
     }
 
     public int errorAt() {
@@ -105,23 +117,13 @@ public final class TextBridge {
         return tape.size();
     }
 
-    private int answerOf(Reader reader, boolean isWhole) {
+    private boolean isRefused(Reader trial, boolean isWhole) {
         // The room is looked at last: a fault anywhere in the tape goes ahead of it.
-        if (isWhole && draft.size() > room) {
-            reader.refuse(TOO_LONG, tape.size());
+        if (isWhole && measure.size() > room) {
+            trial.refuse(TOO_LONG, tape.size());
         }
-        faultPlace = reader.faultPlace();
-        if (reader.faultKind() != NO_FAULT) {
-            return -reader.faultKind();
-        }
-        exchangeRows();
-        return written.size();
-    }
-
-    private void exchangeRows() {
-        Row earlier = written;
-        written = draft;
-        draft = earlier;
+        faultPlace = trial.faultPlace();
+        return trial.faultKind() != NO_FAULT;
     }
 
     /** Bytes one behind the other. Those beyond the capacity are counted, but not kept. */
